@@ -39,12 +39,13 @@ public final class PacketTranslator {
 
     private static final int ALL_ONES = 65535;
     private static final long LOW_32 = 0xffffffffL;
-    private static final int LONGEST_PAYLOAD = 65535;
+    /** What a packet's 16 bits of length can tell at most, and where its fragments must end. */
+    private static final int LONGEST = 65535;
     private static final int TAPE_ROOM = 2400;
     private static final int FED_AT_ONCE = 20;
     /** An inner packet's IPv6 headers are longer than its IPv4 header: 8 + 40 + 8 + (2400 - 20 - 8 - 20). */
     private static final int BODY_ROOM = 2408;
-    /** The longest payload that is split, 2352 bytes behind a fragment header, at MTU4 68: 48 and 20 bytes each. */
+    /** The longest payload that is split, 2352 bytes behind a fragment header, in pieces of 48 bytes at MTU4 68. */
     private static final int MOST_PARTS = 49;
     private static final int OUT_ROOM = 2352 + MOST_PARTS * FOUR_HEADER;
 
@@ -59,7 +60,7 @@ public final class PacketTranslator {
     /** IPv6 pseudo words: 16 of addresses, two of length, two of the next header. */
     private static final int SIX_PSEUDO_WORDS = 20;
 
-    /** Types and codes are kept as they stand in a message: the type's byte above the code's. */
+    /** A message's type and code in one number, as they stand in its first word. */
     private static final int TOO_BIG_SIX = 0x200;
     private static final int POINTED_SIX = 0x400;
     private static final int NO_SUCH_HEADER_SIX = 0x401;
@@ -545,7 +546,7 @@ public final class PacketTranslator {
             return fault;
         }
         int total = FOUR_HEADER + body.length;
-        if (total > LONGEST_PAYLOAD) {
+        if (total > LONGEST) {
             return DAMAGED;
         }
         if (!p.headed && total > LONGEST_WITHOUT_DF && total > mtuFour) {
@@ -624,7 +625,7 @@ public final class PacketTranslator {
             return false;
         }
         q.setFour(source, target);
-        if (FOUR_HEADER + q.length > LONGEST_PAYLOAD) {
+        if (FOUR_HEADER + q.length > LONGEST) {
             return false;
         }
         if (q.protocol != ICMP_SIX) {
@@ -781,7 +782,7 @@ public final class PacketTranslator {
         }
 
         int word(int i) {
-            return at(i) << 8 | at(i + 1);
+            return i >= 0 && i < bytes.length - 1 ? (bytes[i] & 255) << 8 | bytes[i + 1] & 255 : 0;
         }
 
         long number(int i, int width) {
@@ -938,7 +939,7 @@ public final class PacketTranslator {
         }
 
         boolean endsTooFar() {
-            return fragment() && offset * 8 + length > LONGEST_PAYLOAD;
+            return fragment() && offset * 8 + length > LONGEST;
         }
     }
 
@@ -1048,7 +1049,7 @@ public final class PacketTranslator {
             forgetHeaders();
             for (int k = 0; k < MOST_HEADERS && isHeader(next) && offset == 0; k++) {
                 int size = next == FRAGMENT ? FRAGMENT_HEADER : 8 + 8 * row.at(i + 1);
-                if (i + 8 > limit || i + size > limit || next == FRAGMENT && headed) {
+                if (i + size > limit || next == FRAGMENT && headed) {
                     return false;
                 }
                 if (next == FRAGMENT) {
