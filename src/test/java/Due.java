@@ -2,12 +2,22 @@
 final class Due {
     private int wrong = 0;
     private int asked = 0;
+    private String sentence = "";
+
+    /** The document's sentence that the next answers are held against. */
+    void about(String words) {
+        sentence = words;
+    }
+
+    private void tell(String what) {
+        wrong++;
+        System.out.println(sentence.isEmpty() ? what : "\"" + sentence + "\": " + what);
+    }
 
     void is(String what, long got, long want) {
         asked++;
         if (got != want) {
-            wrong++;
-            System.out.println(what + " answered " + got + ", due is " + want);
+            tell(what + " answered " + got + ", due is " + want);
         }
     }
 
@@ -18,8 +28,7 @@ final class Due {
     void bytes(String what, byte[] got, byte[] want) {
         asked++;
         if (!java.util.Arrays.equals(got, want)) {
-            wrong++;
-            System.out.println(what + " answered " + Wire.text(got) + ", due is " + Wire.text(want));
+            tell(what + " answered " + Wire.text(got) + ", due is " + Wire.text(want));
         }
     }
 
@@ -33,8 +42,7 @@ final class Due {
             got = e.getClass();
         }
         if (got != want) {
-            wrong++;
-            System.out.println(what + " threw " + got + ", due is " + want);
+            tell(what + " threw " + got + ", due is " + want);
         }
     }
 

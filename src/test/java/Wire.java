@@ -194,13 +194,15 @@ final class Wire {
         return with(bytes, 2, 2, checksum(join(pseudoSix(source, target, 58, bytes.length), bytes)));
     }
 
+    /** These bytes behind what the tape has. */
     static void feed(PacketTranslator x, byte[] packet) {
+        int before = x.count(11);
         for (int i = 0; i < packet.length; i += 20) {
             byte[] piece = Arrays.copyOfRange(packet, i, i + 20);
             x.feed((int) quad(piece, 0), (int) quad(piece, 4), (int) quad(piece, 8), (int) quad(piece, 12),
                 (int) quad(piece, 16));
         }
-        x.end(packet.length);
+        x.end(before + packet.length);
     }
 
     static int four(PacketTranslator x, byte[] packet) {
